@@ -27,18 +27,9 @@ final class Checks {
         }
     }
 
-    /** The call throws exactly this class, and leaves the object as it was. */
-    void dueThrow(String what, ChangeSync x, Class<? extends RuntimeException> want, Call call) {
-        String before = state(x);
+    /** The call throws exactly this class. That it changes nothing is tested in the EdgesTests. */
+    void dueThrow(String what, Class<? extends RuntimeException> want, Call call) {
         due(what, outcome(call), "throws " + want.getSimpleName());
-        due(what + " changes nothing", state(x), before);
-    }
-
-    /** The call answers false, and leaves the object as it was. */
-    void dueFalse(String what, ChangeSync x, Call call) {
-        String before = state(x);
-        due(what, call.answer(), 0);
-        due(what + " changes nothing", state(x), before);
     }
 
     static String outcome(Call call) {
@@ -49,34 +40,9 @@ final class Checks {
         }
     }
 
-    /** All that can be seen of an object without changing it; UP and DOWN can't. */
-    static String state(ChangeSync x) {
-        StringBuilder text = new StringBuilder();
-        for (int which = 0; which <= 8; which++) {
-            text.append(x.look(which)).append(' ');
-        }
-        for (int replica = 0; replica < x.look(0); replica++) {
-            text.append("| clock ").append(Long.toHexString(x.clock(replica)));
-            text.append(" lacks ").append(x.lacks(replica)).append(" log");
-            for (int k = 0; x.log(replica, k) != ChangeSync.NONE; k++) {
-                text.append(' ').append(x.log(replica, k));
-            }
-            text.append(" weights");
-            for (int seq = 1; x.weight(replica, seq) != ChangeSync.NONE; seq++) {
-                text.append(' ').append(x.weight(replica, seq));
-            }
-        }
-        for (int i = 0; i < x.look(2); i++) {
-            text.append("| message");
-            for (int w = 0; w <= 4; w++) {
-                text.append(' ').append(x.message(i, w));
-            }
-            text.append(" told ").append(Long.toHexString(x.told(i))).append(" inside");
-            for (int k = 0; x.inside(i, k) != ChangeSync.NONE; k++) {
-                text.append(' ').append(x.inside(i, k));
-            }
-        }
-        return text.toString();
+    /** How many answers were looked at. */
+    int done() {
+        return done;
     }
 
     /** Ends the program with 1 if an answer was not as due. */

@@ -86,7 +86,7 @@ public final class PromisesTest {
             ChangeSync x = new ChangeSync(row[0], 50);
             checks.due("N for " + row[0], x.look(0), row[1]);
             checks.due("last replica for " + row[0], x.clock(row[1] - 1), 0);
-            checks.dueThrow("behind the last for " + row[0], x, NO_SUCH, () -> x.clock(row[1]));
+            checks.dueThrow("behind the last for " + row[0], NO_SUCH, () -> x.clock(row[1]));
         }
         int[][] bytes = {{16, 16}, {2000, 2000}, {15, 16}, {17, 17}, {1999, 1999}, {2001, 2000},
             {0, 16}, {-5, 16}, {Integer.MIN_VALUE, 16}, {Integer.MAX_VALUE, 2000}};
@@ -112,24 +112,24 @@ public final class PromisesTest {
         for (int seq = 3; seq <= 60; seq++) {
             checks.due("make " + seq, x.make(0, seq), seq);
         }
-        checks.dueThrow("make 61", x, BAD_STATE, () -> x.make(0, 1));
+        checks.dueThrow("make 61", BAD_STATE, () -> x.make(0, 1));
         checks.due("the other goes on", x.make(1, 7), 2);
     }
 
     private static void makeWrong() {
         ChangeSync x = new ChangeSync(2, 100);
-        checks.dueThrow("make(-1)", x, NO_SUCH, () -> x.make(-1, 5));
-        checks.dueThrow("make(2)", x, NO_SUCH, () -> x.make(2, 5));
+        checks.dueThrow("make(-1)", NO_SUCH, () -> x.make(-1, 5));
+        checks.dueThrow("make(2)", NO_SUCH, () -> x.make(2, 5));
         for (int far : FAR) {
-            checks.dueThrow("make far", x, NO_SUCH, () -> x.make(far, 5));
-            checks.dueThrow("make heavy", x, BAD_ARGUMENT, () -> x.make(0, far));
+            checks.dueThrow("make far", NO_SUCH, () -> x.make(far, 5));
+            checks.dueThrow("make heavy", BAD_ARGUMENT, () -> x.make(0, far));
         }
-        checks.dueThrow("weight 0", x, BAD_ARGUMENT, () -> x.make(0, 0));
-        checks.dueThrow("weight 401", x, BAD_ARGUMENT, () -> x.make(0, 401));
-        checks.dueThrow("replica before weight", x, NO_SUCH, () -> x.make(2, 0));
+        checks.dueThrow("weight 0", BAD_ARGUMENT, () -> x.make(0, 0));
+        checks.dueThrow("weight 401", BAD_ARGUMENT, () -> x.make(0, 401));
+        checks.dueThrow("replica before weight", NO_SUCH, () -> x.make(2, 0));
         x.up(1, false);
-        checks.dueThrow("make of one down", x, BAD_STATE, () -> x.make(1, 5));
-        checks.dueThrow("weight before down", x, BAD_ARGUMENT, () -> x.make(1, 0));
+        checks.dueThrow("make of one down", BAD_STATE, () -> x.make(1, 5));
+        checks.dueThrow("weight before down", BAD_ARGUMENT, () -> x.make(1, 0));
         x.up(1, true);
         checks.due("up again", x.make(1, 5), 1);
     }
@@ -151,11 +151,11 @@ public final class PromisesTest {
             checks.due("told", x.told(i), 0x10000);
         }
         checks.due("in flight", x.look(2), 3);
-        checks.dueThrow("tick(-1)", x, NO_SUCH, () -> x.tick(-1));
-        checks.dueThrow("tick(4)", x, NO_SUCH, () -> x.tick(4));
-        checks.dueThrow("tick of one down", x, BAD_STATE, () -> x.tick(3));
+        checks.dueThrow("tick(-1)", NO_SUCH, () -> x.tick(-1));
+        checks.dueThrow("tick(4)", NO_SUCH, () -> x.tick(4));
+        checks.dueThrow("tick of one down", BAD_STATE, () -> x.tick(3));
         for (int far : FAR) {
-            checks.dueThrow("tick far", x, NO_SUCH, () -> x.tick(far));
+            checks.dueThrow("tick far", NO_SUCH, () -> x.tick(far));
         }
     }
 
@@ -283,15 +283,15 @@ public final class PromisesTest {
 
     private static void deliverWrong() {
         ChangeSync x = new ChangeSync(3, 100);
-        checks.dueThrow("deliver(0) of none", x, NO_SUCH, () -> x.deliver(0));
+        checks.dueThrow("deliver(0) of none", NO_SUCH, () -> x.deliver(0));
         x.tick(0);
-        checks.dueThrow("deliver(-1)", x, NO_SUCH, () -> x.deliver(-1));
-        checks.dueThrow("deliver(2)", x, NO_SUCH, () -> x.deliver(2));
+        checks.dueThrow("deliver(-1)", NO_SUCH, () -> x.deliver(-1));
+        checks.dueThrow("deliver(2)", NO_SUCH, () -> x.deliver(2));
         for (int far : FAR) {
-            checks.dueThrow("deliver far", x, NO_SUCH, () -> x.deliver(far));
+            checks.dueThrow("deliver far", NO_SUCH, () -> x.deliver(far));
         }
         fillFlight(x);
-        checks.dueThrow("deliver(120)", x, NO_SUCH, () -> x.deliver(120));
+        checks.dueThrow("deliver(120)", NO_SUCH, () -> x.deliver(120));
         x.deliver(119);
         checks.due("the last is there no more", x.look(2), 119);
         checks.due("the others are", x.message(118, 0), 118);
@@ -301,7 +301,7 @@ public final class PromisesTest {
 
     private static void lose() {
         ChangeSync x = new ChangeSync(4, 100);
-        checks.dueFalse("lose(0) of none", x, () -> x.lose(0) ? 1 : 0);
+        checks.due("lose(0) of none", x.lose(0), false);
         x.tick(0);
         checks.due("lose(1)", x.lose(1), true);
         checks.due("in flight", x.look(2), 2);
@@ -309,10 +309,10 @@ public final class PromisesTest {
         checks.due("sent", x.look(3), 3);
         checks.due("before it", x.message(0, 0), 0);
         checks.due("behind it", x.message(1, 0), 2);
-        checks.dueFalse("lose(2)", x, () -> x.lose(2) ? 1 : 0);
-        checks.dueFalse("lose(-1)", x, () -> x.lose(-1) ? 1 : 0);
+        checks.due("lose(2)", x.lose(2), false);
+        checks.due("lose(-1)", x.lose(-1), false);
         for (int far : FAR) {
-            checks.dueFalse("lose far", x, () -> x.lose(far) ? 1 : 0);
+            checks.due("lose far", x.lose(far), false);
         }
         checks.due("lose the last", x.lose(1), true);
         checks.due("lose the only", x.lose(0), true);
@@ -324,7 +324,7 @@ public final class PromisesTest {
 
     private static void twice() {
         ChangeSync x = new ChangeSync(3, 100);
-        checks.dueThrow("twice(0) of none", x, NO_SUCH, () -> x.twice(0));
+        checks.dueThrow("twice(0) of none", NO_SUCH, () -> x.twice(0));
         makeMany(x, 1, 5, 6);
         x.tick(0);
         x.make(0, 9);
@@ -342,10 +342,10 @@ public final class PromisesTest {
         checks.due("the same bytes", x.message(3, 3), 14);
         checks.due("number", x.message(3, 0), 4);
         checks.due("no clock", x.told(3), -1);
-        checks.dueThrow("twice(4)", x, NO_SUCH, () -> x.twice(4));
-        checks.dueThrow("twice(-1)", x, NO_SUCH, () -> x.twice(-1));
+        checks.dueThrow("twice(4)", NO_SUCH, () -> x.twice(4));
+        checks.dueThrow("twice(-1)", NO_SUCH, () -> x.twice(-1));
         for (int far : FAR) {
-            checks.dueThrow("twice far", x, NO_SUCH, () -> x.twice(far));
+            checks.dueThrow("twice far", NO_SUCH, () -> x.twice(far));
         }
         x.up(0, true);
         fillFlight(x);
@@ -363,17 +363,18 @@ public final class PromisesTest {
         ChangeSync x = new ChangeSync(2, 100);
         x.make(0, 5);
         x.tick(0);
-        String before = Checks.state(x);
-        checks.dueFalse("up of one up", x, () -> x.up(0, true) ? 1 : 0);
+        checks.due("up of one up", x.up(0, true), false);
         checks.due("down", x.up(0, false), true);
-        checks.due("what is there stays", Checks.state(x), before);
-        checks.dueFalse("down of one down", x, () -> x.up(0, false) ? 1 : 0);
+        checks.due("its log stays", x.log(0, 0), 8);
+        checks.due("its clock stays", x.clock(0), 1);
+        checks.due("its message stays", x.told(0), 1);
+        checks.due("down of one down", x.up(0, false), false);
         checks.due("the other is up", x.up(1, true), false);
         checks.due("up again", x.up(0, true), true);
         checks.due("it works again", x.make(0, 5), 2);
         for (int none : new int[] {-1, 2, Integer.MIN_VALUE, Integer.MAX_VALUE}) {
-            checks.dueFalse("up of none", x, () -> x.up(none, true) ? 1 : 0);
-            checks.dueFalse("down of none", x, () -> x.up(none, false) ? 1 : 0);
+            checks.due("up of none", x.up(none, true), false);
+            checks.due("down of none", x.up(none, false), false);
         }
     }
 
@@ -381,7 +382,7 @@ public final class PromisesTest {
 
     private static void message() {
         ChangeSync x = new ChangeSync(8, 100);
-        checks.dueThrow("message(0, 0) of none", x, NO_SUCH, () -> x.message(0, 0));
+        checks.dueThrow("message(0, 0) of none", NO_SUCH, () -> x.message(0, 0));
         makeMany(x, 4, 30, 40);
         x.tick(6);
         x.deliver(4);
@@ -392,10 +393,10 @@ public final class PromisesTest {
             checks.due("part, w " + w, x.message(6, w), part[w]);
         }
         for (int w : new int[] {-1, 5, Integer.MIN_VALUE, Integer.MAX_VALUE}) {
-            checks.dueThrow("message w " + w, x, NO_SUCH, () -> x.message(0, w));
+            checks.dueThrow("message w " + w, NO_SUCH, () -> x.message(0, w));
         }
         for (int i : new int[] {-1, 7, Integer.MIN_VALUE, Integer.MAX_VALUE}) {
-            checks.dueThrow("message " + i, x, NO_SUCH, () -> x.message(i, 0));
+            checks.dueThrow("message " + i, NO_SUCH, () -> x.message(i, 0));
         }
     }
 
@@ -449,7 +450,7 @@ public final class PromisesTest {
         x.tick(0);
         checks.due("told", x.told(7), (60L << 56) + 2);
         for (int none : new int[] {-1, 8, Integer.MIN_VALUE, Integer.MAX_VALUE}) {
-            checks.dueThrow("clock of none", x, NO_SUCH, () -> x.clock(none));
+            checks.dueThrow("clock of none", NO_SUCH, () -> x.clock(none));
         }
     }
 
@@ -509,7 +510,7 @@ public final class PromisesTest {
         x.up(2, false);
         checks.due("down", x.lacks(2), 1);
         for (int none : new int[] {-1, 3, Integer.MIN_VALUE, Integer.MAX_VALUE}) {
-            checks.dueThrow("lacks of none", x, NO_SUCH, () -> x.lacks(none));
+            checks.dueThrow("lacks of none", NO_SUCH, () -> x.lacks(none));
         }
     }
 
