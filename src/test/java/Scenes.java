@@ -125,7 +125,7 @@ final class Scenes {
 
     static String log(ChangeSync x, int replica) {
         StringBuilder text = new StringBuilder();
-        for (int k = 0; x.log(replica, k) != ChangeSync.NONE; k++) {
+        for (int k = 0; k <= 480 && x.log(replica, k) != ChangeSync.NONE; k++) {
             text.append(k == 0 ? "" : " ").append(x.log(replica, k));
         }
         return text.toString();

@@ -269,6 +269,30 @@ public final class TermsEdgesTest {
     }
 
     @Says(in = "Terms", value = ANSWERS)
+    static void whatWasToldCountsAndNotTheClockOfNow(Edges e) {
+        ChangeSync x = new ChangeSync(2, 100);
+        Scenes.make(x, 1, 5, 6);
+        x.tick(0);
+        x.twice(0);
+        x.deliver(0);
+        e.due("both come", x.deliver(1), 2);
+        e.due("the old CLOCK is answered", x.deliver(0), 1);
+        e.due("with both", Scenes.part(x, 0), "14[9 17]");
+    }
+
+    @Says(in = "Terms", value = ANSWERS)
+    static void changesThatTheSenderMadeItselfAreSentToo(Edges e) {
+        ChangeSync x = new ChangeSync(2, 100);
+        x.tick(0);
+        x.make(0, 5);
+        x.tick(1);
+        x.deliver(1);
+        x.deliver(1);
+        e.due("the old CLOCK is answered", x.deliver(0), 1);
+        e.due("with its sender's change", Scenes.part(x, 0), "8[8]");
+    }
+
+    @Says(in = "Terms", value = ANSWERS)
     static void aHighCountOfOneActorHidesNoOther(Edges e) {
         ChangeSync x = new ChangeSync(3, 100);
         Scenes.make(x, 0, 1, 1, 1);
